@@ -708,10 +708,10 @@ public final class DollsVote {
             return place + 5;
         }
 
-        /** How many figures stand here one next to the other, as far as a row could go and one more. */
+        /** How many figures stand here one next to the other, as far as a row can go. */
         private int figuresFrom(int place) {
             int figures = 0;
-            while (figures <= ROOMS_MOST && figureAt(place + figures) != NONE) {
+            while (figures < ROOMS_MOST && figureAt(place + figures) != NONE) {
                 figures++;
             }
             return figures;

@@ -114,6 +114,9 @@ public final class ModelTest {
         if (kind == 1) {
             return most + 1;
         }
+        if (kind == 2 && random.nextInt(4) == 0) {
+            return random.nextBoolean() ? Integer.MAX_VALUE : Integer.MIN_VALUE;
+        }
         return least + random.nextInt(most - least + 1);
     }
 

@@ -117,6 +117,7 @@ public final class NurseriesTest {
         due.is("5 room beyond", DollsVote.BAD, x.room(0, 5));
         due.is("5 house beyond", DollsVote.BAD, x.room(3, 0));
         x.pass(2);
+        x.kinds(0);
         due.is("5 the text stays: lay again", 3, x.lay());
         due.is("5 day 0 again", 0, x.count(2));
         due.so("5 the same again", Due.row(x, 0).equals("12345"));

@@ -7,6 +7,7 @@ public final class SeenTest {
         forget();
         kinds();
         stood();
+        onSeveralDays();
         byNowNotByThen();
         tells();
         due.end();
@@ -91,6 +92,26 @@ public final class SeenTest {
         x.forget();
         x.seen(20, 0, 1, 0);
         due.is("26 far ahead", 1, x.stood(1));
+    }
+
+    private static void onSeveralDays() {
+        DollsVote x = Due.laid("h0,12;h0,34;h0,56;");
+        x.seen(2, 0, 0, 5);
+        x.seen(1, 0, 0, 3);
+        x.seen(0, 0, 0, 1);
+        due.is("25 each on its own day", 1, x.kinds(0));
+        due.is("26 each on its own day", 32, x.stood(0));
+        x.seen(2, 0, 1, 0);
+        x.seen(0, 0, 1, 2);
+        due.is("25 the furthest is not the last that was told", 0, x.kinds(0));
+        due.is("26 the furthest is not the last that was told", 1, withoutFirst().stood(1));
+    }
+
+    private static DollsVote withoutFirst() {
+        DollsVote x = Due.laid("h0,12;h0,34;h0,56;");
+        x.seen(2, 0, 1, 0);
+        x.seen(0, 0, 1, 2);
+        return x;
     }
 
     private static void byNowNotByThen() {
