@@ -1,3 +1,6 @@
+import java.lang.reflect.Method;
+import java.util.Arrays;
+
 /** What the project's tests share: answers that are due, counted, and an end that tells. */
 final class Due {
     private int wrong;
@@ -15,6 +18,10 @@ final class Due {
         is(what, 1, holds ? 1 : 0);
     }
 
+    void same(String what, String due, String got) {
+        so(what + " is " + got + ", due is " + due, due.equals(got));
+    }
+
     boolean allRight() {
         return wrong == 0;
     }
@@ -24,6 +31,14 @@ final class Due {
         if (wrong != 0) {
             System.exit(1);
         }
+    }
+
+    /** A public method by its name. */
+    static int ask(DollsVote x, String name, int... numbers) throws ReflectiveOperationException {
+        Class<?>[] types = new Class<?>[numbers.length];
+        Arrays.fill(types, int.class);
+        Method method = DollsVote.class.getMethod(name, types);
+        return (Integer) method.invoke(x, Arrays.stream(numbers).boxed().toArray());
     }
 
     static void type(DollsVote x, String text) {

@@ -1,4 +1,3 @@
-import java.lang.reflect.Method;
 import java.util.Arrays;
 import java.util.Random;
 
@@ -121,11 +120,7 @@ public final class ModelTest {
     }
 
     private void call(String name, int... numbers) throws Exception {
-        Class<?>[] types = new Class<?>[numbers.length];
-        Arrays.fill(types, int.class);
-        Object[] values = Arrays.stream(numbers).boxed().toArray();
-        Method method = DollsVote.class.getMethod(name, types);
-        int got = (Integer) method.invoke(x, values);
+        int got = Due.ask(x, name, numbers);
         String asked = name + Arrays.toString(numbers);
         run.append(' ').append(asked).append('=').append(got);
         calls++;
