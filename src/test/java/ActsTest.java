@@ -143,21 +143,22 @@ public final class ActsTest {
     }
 
     private static void undoEach() {
-        DollsVote x = new DollsVote();
+        DollsVote x = Due.laid("h1,52;h2,07;h3,94;m1;q0,4;");
+        x.wipe();
         due.is("15 nothing", DollsVote.NO, x.undo());
         String[] states = new String[7];
         states[0] = Due.state(x);
         x.pass(7);
         states[1] = Due.state(x);
-        x.pin(2, 2, 0);
+        x.pin(2, 0, 1);
         states[2] = Due.state(x);
         x.sneeze(2);
         states[3] = Due.state(x);
-        x.mouse(1);
+        x.mouse(0);
         states[4] = Due.state(x);
-        x.chase(3);
+        x.chase(1);
         states[5] = Due.state(x);
-        x.want(3, 3);
+        x.want(1, 3);
         for (int i = 5; i >= 0; i--) {
             due.is("15 undo", i, x.undo());
             due.so("15 as it was ahead of act " + i, states[i].equals(Due.state(x)));

@@ -18,11 +18,14 @@ public final class ComesUpTest {
     private static void behind() {
         DollsVote x = Due.laid("h3,123;h1,505;h2,046;h0,789;");
         due.so("16 now", Due.rowBehind(x, 0, 0).equals("123"));
-        DollsVote y = Due.laid("h3,123;h1,505;h2,046;h0,789;");
         for (int n = 1; n <= 40; n++) {
-            y.pass(1);
+            DollsVote ahead = Due.laid("h3,123;h1,505;h2,046;h0,789;");
+            DollsVote there = Due.laid("h3,123;h1,505;h2,046;h0,789;");
+            for (int day = 0; day < n; day++) {
+                there.pass(1);
+            }
             for (int h = 0; h < 4; h++) {
-                due.so("16 behind " + n + " in " + h, Due.rowBehind(x, n, h).equals(Due.row(y, h)));
+                due.same("16 behind " + n + " in " + h, Due.row(there, h), Due.rowBehind(ahead, n, h));
             }
         }
         int[][] bad = {{-1, 0, 0}, {41, 0, 0}, {0, -1, 0}, {0, 4, 0}, {0, 0, -1}, {0, 0, 3}};

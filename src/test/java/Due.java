@@ -60,7 +60,8 @@ final class Due {
     /** What stands in a house, as a row. */
     static String row(DollsVote x, int h) {
         StringBuilder row = new StringBuilder();
-        for (int r = 0; r < x.count(1); r++) {
+        int rooms = x.count(1);
+        for (int r = 0; r < rooms; r++) {
             row.append(x.room(h, r));
         }
         return row.toString();
@@ -68,7 +69,8 @@ final class Due {
 
     static String rowBehind(DollsVote x, int n, int h) {
         StringBuilder row = new StringBuilder();
-        for (int r = 0; r < x.count(1); r++) {
+        int rooms = x.count(1);
+        for (int r = 0; r < rooms; r++) {
             row.append(x.behind(n, h, r));
         }
         return row.toString();
@@ -86,10 +88,12 @@ final class Due {
     /** What stands in the houses, their mice and what is wanted. */
     static String standing(DollsVote x) {
         StringBuilder all = new StringBuilder();
-        for (int h = 0; h < x.count(0); h++) {
+        int houses = x.count(0);
+        int rooms = x.count(1);
+        for (int h = 0; h < houses; h++) {
             all.append(x.house(h, 0)).append(x.house(h, 1)).append(row(x, h)).append(' ');
         }
-        for (int r = 0; r < x.count(1); r++) {
+        for (int r = 0; r < rooms; r++) {
             all.append(x.wanted(r)).append(' ');
         }
         return all.toString();

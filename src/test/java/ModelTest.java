@@ -87,9 +87,9 @@ public final class ModelTest {
 
     private int number(char sort) {
         switch (sort) {
-            case 'h': return edged(0, x.count(0) - 1);
-            case 'r': return edged(0, x.count(1) - 1);
-            case 'R': return edged(-1, x.count(1) - 1);
+            case 'h': return edged(0, modelCount(0) - 1);
+            case 'r': return edged(0, modelCount(1) - 1);
+            case 'R': return edged(-1, modelCount(1) - 1);
             case 'v': return edged(0, 9);
             case 'V': return edged(0, 10);
             case 'w': return edged(0, 1);
@@ -103,6 +103,11 @@ public final class ModelTest {
             case 'c': return edged(1, 60);
             default: return random.nextInt(3) == 0 ? edged(0, 40) : random.nextInt(10);
         }
+    }
+
+    /** Asked of the model, for the object has 512 calls in all. */
+    private int modelCount(int what) {
+        return model.ask("count", new int[] {what});
     }
 
     private int edged(int least, int most) {
@@ -120,12 +125,15 @@ public final class ModelTest {
     }
 
     private void call(String name, int... numbers) throws Exception {
+        if (calls == CALLS) {
+            return;
+        }
         int got = Due.ask(x, name, numbers);
         String asked = name + Arrays.toString(numbers);
         run.append(' ').append(asked).append('=').append(got);
         calls++;
         // Five rooms at the bottom are a hundred thousand rows: too many for every call to try them all.
-        if (name.equals("pins") && x.count(1) > 3 && random.nextInt(8) != 0) {
+        if (name.equals("pins") && modelCount(1) > 3 && random.nextInt(8) != 0) {
             return;
         }
         due.is(asked, model.ask(name, numbers), got);
