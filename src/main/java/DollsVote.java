@@ -439,7 +439,7 @@ public final class DollsVote {
         }
 
         int kind(int h) {
-            return hasHouse(h) ? kinds[h] : NONE;
+            return h >= 0 && h < kinds.length ? kinds[h] : NONE;
         }
 
         void setKind(int h, int kind) {
@@ -473,7 +473,7 @@ public final class DollsVote {
         int wishes() {
             int number = 0;
             for (int r = 0; r < rooms; r++) {
-                if (wishes[r] != NOTHING) {
+                if (wish(r) != NOTHING) {
                     number++;
                 }
             }
@@ -484,7 +484,7 @@ public final class DollsVote {
         int metRooms() {
             int bits = 0;
             for (int r = 0; r < rooms; r++) {
-                if (wishes[r] == thing(0, r)) {
+                if (wish(r) == thing(0, r)) {
                     bits |= 1 << r;
                 }
             }
@@ -542,7 +542,7 @@ public final class DollsVote {
         }
 
         private int nextThing(int h, int r) {
-            int kind = kinds[h];
+            int kind = kind(h);
             int inside = thing(h + 1, kind == CARRIED ? roomAfter(r) : r);
             if (kind == TURNED) {
                 return THINGS - 1 - inside;
@@ -565,7 +565,7 @@ public final class DollsVote {
         int roomAbove(int below, int r, int above) {
             int room = r;
             for (int h = below - 1; h >= above; h--) {
-                if (kinds[h] == CARRIED) {
+                if (kind(h) == CARRIED) {
                     room = room > 0 ? room - 1 : rooms - 1;
                 }
             }
